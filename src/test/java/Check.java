@@ -30,6 +30,24 @@ final class Check {
         }
     }
 
+    /** Tells the first line that differs, because the whole texts are long. */
+    void same(String what, String got, String want) {
+        asked++;
+        if (got.equals(want)) {
+            return;
+        }
+        wrong++;
+        String[] gotLines = got.split("\n");
+        String[] wantLines = want.split("\n");
+        int i = 0;
+        while (i < gotLines.length && i < wantLines.length && gotLines[i].equals(wantLines[i])) {
+            i++;
+        }
+        System.out.println(test + ": " + what + ": "
+            + (i < gotLines.length ? gotLines[i] : "nothing more") + ", due is "
+            + (i < wantLines.length ? wantLines[i] : "nothing more"));
+    }
+
     void isThrown(String call, Class<?> want, Runnable run) {
         due(call, outcome(() -> {
             run.run();
