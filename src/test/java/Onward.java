@@ -3,74 +3,88 @@ import java.util.function.LongSupplier;
 
 /**
  * What an object answers from where it stands, as a text: two objects that differ in anything that
- * a caller could find out, also in what is laid down, differ in one of the three texts.
+ * a caller could find out, also in what is laid down, differ in one of the three texts. What is
+ * refused comes last: it could change both of them, so that they were the same again.
  */
 final class Onward {
+    private static final long LAST_TIME = 1L << 60;
+
     private final CycleKernel kernel;
     private final List<Integer> sizes;
     private final int processes;
+    private final boolean started;
     private final StringBuilder seen = new StringBuilder();
     private int left;
 
-    /** The sizes of the object's signals, how many processes it has, and what it may be asked. */
-    Onward(CycleKernel kernel, List<Integer> sizes, int processes, int left) {
+    /** What the object was made of, whether it was started, and how many calls are left of it. */
+    Onward(CycleKernel kernel, List<Integer> sizes, int processes, boolean started, int left) {
         this.kernel = kernel;
         this.sizes = sizes;
         this.processes = processes;
+        this.started = started;
         this.left = left;
     }
 
-    /** All that can be asked for without a change. */
+    /** All that can be asked for without a change, and what can still be made. */
     String looked() {
         lookAtTimes();
-        for (int p : some(processes)) {
-            ask("state " + p, () -> kernel.state(p));
-        }
+        lookAtStates();
         for (int s : some(sizes.size())) {
             ask("marks " + s, () -> kernel.marks(s));
-            for (int k : some(sizeOf(s))) {
+            for (int k : some(sizes.get(s))) {
                 ask("value " + s + " " + k, () -> kernel.value(s, k, false));
                 ask("last value " + s + " " + k, () -> kernel.value(s, k, true));
             }
         }
         lookAtRows();
+        int signals = sizes.size();
+        if (!started) {
+            ask("signal", () -> kernel.signal(CycleKernel.NUMBER, 1));
+            ask("drive", () -> doing(() -> kernel.drive(0, signals)));
+            ask("process", kernel::process);
+        }
+        ask("state " + processes, () -> kernel.state(processes));
+        ask("marks " + signals, () -> kernel.marks(signals));
+        ask("start", () -> doing(kernel::start));
         return seen.toString();
     }
 
-    /** What is still free before the start, and the values that are laid down. */
+    /** The values that are laid down. */
     String assigned() {
-        ask("signal", () -> kernel.signal(CycleKernel.NUMBER, 1));
-        ask("process", kernel::process);
-        ask("drive", () -> doing(() -> kernel.drive(0, sizes.size())));
-        ask("start", () -> doing(kernel::start));
+        startIfNeeded();
         boolean done = false;
-        for (int p : some(processes)) {
-            for (int s : some(sizes.size())) {
-                done |= ask("assign " + p + " " + s,
-                    () -> kernel.assign(p, s, 0, sizeOf(s), 1, 0)) >= 0;
+        for (int s : some(sizes.size())) {
+            int p = firstThatCanAssign(s);
+            if (p >= 0 && !done) {
+                done = ask("assign " + p + " " + s,
+                    () -> kernel.assign(p, s, 0, sizes.get(s), 1, 0)) >= 0
+                    || ask("assign " + p + " " + s, () -> kernel.assign(p, s, 0, 1, 1, 0)) >= 0;
             }
         }
+        lookAtRows();
         for (int i = 0; i <= 16 && !done; i++) {
             done = ask("wave", () -> doing(() -> kernel.wave(1))) < 0;
         }
-        lookAtRows();
         return seen.toString();
     }
 
-    /** The signals that are laid down, and how time goes on. */
-    String wentOn() {
-        ask("start", () -> doing(kernel::start));
+    /**
+     * How time goes on behind a change of one signal: it tells which signals are laid down, when
+     * this is done for each of them by itself.
+     */
+    String wentOn(int changed) {
+        startIfNeeded();
         long first = ask("which", () -> kernel.which(CycleKernel.RUNS, 0));
-        ask("suspend", () -> doing(() -> kernel.suspend((int) first, false, CycleKernel.NONE)));
+        if (first >= 0) {
+            ask("suspend", () -> doing(() -> kernel.suspend((int) first, false, CycleKernel.NONE)));
+        }
         ask("drop", () -> doing(kernel::drop));
-        changeSignals();
+        change(changed);
         for (int i = 0; i < 4; i++) {
             settle();
             ask("cycle", kernel::cycle);
             lookAtTimes();
-            for (int p : some(processes)) {
-                ask("state " + p, () -> kernel.state(p));
-            }
+            lookAtStates();
             for (int s : some(sizes.size())) {
                 ask("value " + s, () -> kernel.value(s, 0, false));
             }
@@ -78,17 +92,30 @@ final class Onward {
         return seen.toString();
     }
 
-    private void changeSignals() {
-        for (int s : some(sizes.size())) {
-            long value = ask("value " + s, () -> kernel.value(s, 0, false));
-            ask("wave", () -> doing(() -> kernel.wave(s + 1L)));
-            ask("put", () -> doing(() -> kernel.put(0, value == 3 ? 2 : 3)));
-            boolean done = false;
-            for (int p = 0; p < processes && p < 4 && !done; p++) {
-                int process = p;
-                done = ask("assign", () -> kernel.assign(process, s, 0, 1, 1, 0)) >= 0;
+    private void startIfNeeded() {
+        if (!started) {
+            ask("start", () -> doing(kernel::start));
+        }
+    }
+
+    private int firstThatCanAssign(int s) {
+        for (int p = 0; p < processes && p < 8; p++) {
+            int process = p;
+            if (ask("state " + p, () -> kernel.state(process)) == CycleKernel.RUNS
+                    && ask("pending " + p, () -> kernel.pending(process, s, 0)) >= 0) {
+                return p;
             }
-            ask("drop", () -> doing(kernel::drop));
+        }
+        return -1;
+    }
+
+    private void change(int s) {
+        int p = s >= 0 && s < sizes.size() ? firstThatCanAssign(s) : -1;
+        if (p >= 0) {
+            long value = ask("value " + s, () -> kernel.value(s, 0, false));
+            ask("wave", () -> doing(() -> kernel.wave(1)));
+            ask("put", () -> doing(() -> kernel.put(0, value == 3 ? 2 : 3)));
+            ask("assign", () -> kernel.assign(p, s, 0, 1, 1, 0));
         }
     }
 
@@ -100,12 +127,13 @@ final class Onward {
             }
             ask("answer", () -> doing(() -> kernel.answer((int) p, false)));
         }
+        long now = ask("now", kernel::now);
         for (int i = 0; i < 64; i++) {
             long p = ask("which", () -> kernel.which(CycleKernel.RUNS, 0));
             if (p < 0) {
                 break;
             }
-            long delay = i == 0 ? 2 : CycleKernel.NONE;
+            long delay = i == 0 && now <= LAST_TIME - 2 ? 2 : CycleKernel.NONE;
             ask("suspend", () -> doing(() -> kernel.suspend((int) p, false, delay)));
         }
     }
@@ -124,15 +152,21 @@ final class Onward {
         }
     }
 
+    private void lookAtStates() {
+        for (int p = 0; p < processes && p < 8; p++) {
+            int process = p;
+            ask("state " + p, () -> kernel.state(process));
+        }
+    }
+
     private void lookAtRows() {
         long now = ask("now", kernel::now);
         for (int p : some(processes)) {
             for (int s : some(sizes.size())) {
-                for (int k : some(sizeOf(s))) {
+                for (int k : some(sizes.get(s))) {
                     ask("pending " + p + " " + s + " " + k, () -> kernel.pending(p, s, k));
-                    for (long d = 0; d <= 4; d += 2) {
-                        long time = now + d;
-                        ask("projected " + p + " " + s + " " + k + " in " + d,
+                    for (long time : new long[] {now, now + 2, now + 4, Long.MAX_VALUE}) {
+                        ask("projected " + p + " " + s + " " + k + " at " + time,
                             () -> kernel.projected(p, s, k, time));
                     }
                 }
@@ -140,18 +174,14 @@ final class Onward {
         }
     }
 
-    /** The first two, the last, and one that should not be there. */
-    private static int[] some(int count) {
+    /** The first two and the last of so many. */
+    static int[] some(int count) {
         return switch (count) {
-            case 0 -> new int[] {0};
-            case 1 -> new int[] {0, 1};
-            case 2 -> new int[] {0, 1, 2};
-            default -> new int[] {0, 1, count - 1, count};
+            case 0 -> new int[] {};
+            case 1 -> new int[] {0};
+            case 2 -> new int[] {0, 1};
+            default -> new int[] {0, 1, count - 1};
         };
-    }
-
-    private int sizeOf(int s) {
-        return s < sizes.size() ? sizes.get(s) : 1;
     }
 
     private static long doing(Runnable call) {

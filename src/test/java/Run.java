@@ -20,6 +20,7 @@ final class Run {
     private final List<ToLongFunction<CycleKernel>> changes = new ArrayList<>();
     private final List<Integer> sizes = new ArrayList<>();
     private int processes;
+    private boolean started;
     private int calls;
     private String due;
 
@@ -62,7 +63,7 @@ final class Run {
     }
 
     void start() {
-        act("start()", CycleKernel::start);
+        started |= act("start()", CycleKernel::start);
     }
 
     void wave(long delay) {
@@ -145,13 +146,14 @@ final class Run {
             x -> x.projected(process, signal, k, time));
     }
 
-    private void act(String text, Consumer<CycleKernel> call) {
-        change(text, k -> {
+    private boolean act(String text, Consumer<CycleKernel> call) {
+        return change(text, k -> {
             call.accept(k);
             return 0;
         });
     }
 
+    /** Answers whether it was taken. */
     private boolean change(String text, ToLongFunction<CycleKernel> call) {
         boolean taken = make(text, call);
         if (taken) {
@@ -173,7 +175,9 @@ final class Run {
         if (!taken) {
             changedNothing(text, call, Onward::looked);
             changedNothing(text, call, Onward::assigned);
-            changedNothing(text, call, Onward::wentOn);
+            changedNothing(text, call, onward -> onward.wentOn(0));
+            changedNothing(text, call, onward -> onward.wentOn(1));
+            changedNothing(text, call, onward -> onward.wentOn(sizes.size() - 1));
         }
         return taken;
     }
@@ -196,6 +200,6 @@ final class Run {
 
     private Onward onward(CycleKernel copy) {
         int left = Math.max(0, MOST_CALLS - changes.size() - 1);
-        return new Onward(copy, sizes, processes, left);
+        return new Onward(copy, sizes, processes, started, left);
     }
 }
