@@ -204,6 +204,9 @@ public final class RefusedTest extends Boundary {
             x.signal(s == 0 ? LOGIC : s == 9 ? NUMBER : ROW, sizes[s]);
             x.drive(s == 9 ? 2 : 0, s);
         }
+        // Refused here, because only a full object tells whether they took room from transactions.
+        x.refuses(STATE).drive(1, 9);
+        x.refuses(STATE).drive(1, 0);
         x.start();
         set(x, 0, 0, 1, ONE);
         x.suspend(0, false, 1);
